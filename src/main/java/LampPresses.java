@@ -1250,29 +1250,30 @@ public final class LampPresses {
                 end++;
             }
             start = end;
-            takeToken();
+            kind = kindAt(start);
+            if (kind != END) {
+                end++;
+            }
+            while (kind == WORD && end < tape.length && kindAt(end) == WORD) {
+                end++;
+            }
             if (needsGap && start == ended && isSpelled(kind)) {
                 kind = WRONG;
             }
         }
 
-        private void takeToken() {
-            if (end >= tape.length) {
-                kind = END;
-                return;
+        private int kindAt(int i) {
+            if (i >= tape.length) {
+                return END;
             }
-            int first = byteAt(end);
-            end++;
-            if (isLetter(first)) {
-                kind = WORD;
-                while (end < tape.length && isLetter(byteAt(end))) {
-                    end++;
-                }
-            } else if (first >= '0' && first <= '9') {
-                kind = NUMBER;
-            } else {
-                kind = first == ';' ? STOP : WRONG;
+            int sign = byteAt(i);
+            if (sign >= 'a' && sign <= 'z') {
+                return WORD;
             }
+            if (sign >= '0' && sign <= '9') {
+                return NUMBER;
+            }
+            return sign == ';' ? STOP : WRONG;
         }
 
         private int byteAt(int i) {
@@ -1285,10 +1286,6 @@ public final class LampPresses {
 
         private static boolean isGap(int sign) {
             return sign == 32 || sign == 10;
-        }
-
-        private static boolean isLetter(int sign) {
-            return sign >= 'a' && sign <= 'z';
         }
     }
 
