@@ -1,9 +1,6 @@
 /** Boundary cases of promises 5 to 19 and of the terms that bound ACTS and the BOOK: a method for each sentence. */
 final class BoundariesActsTest {
     private static final int NONE = LampPresses.NONE;
-    private static final int LEAST = Integer.MIN_VALUE;
-    private static final int GREATEST = Integer.MAX_VALUE;
-    private static final int[] STATES = {2, 3, 5};
 
     private BoundariesActsTest() {
     }
@@ -13,54 +10,38 @@ final class BoundariesActsTest {
         Check.end();
     }
 
-    private static String lamps(int n) {
-        return "lamp 0;".repeat(n);
-    }
-
-    private static Run of(int m, int n) {
-        return Run.of("states " + m + ";" + lamps(n));
-    }
-
-    /** Numbers next to 0 .. n less 1, and far from them. */
-    private static int[] outOf(int n) {
-        return new int[] {-1, n, -2, n + 1, n + 16, n + 32, -n, LEAST, GREATEST};
-    }
-
-    private static boolean isIn(int i, int n) {
-        return i >= 0 && i < n;
-    }
-
     // ---- lamp
 
     static void promise5NoSuchState() {
-        for (int m : STATES) {
-            for (int shows : outOf(m)) {
-                of(m, 1).refuses("lamp(" + shows + ") of " + m + " states", x -> x.lamp(shows), NONE);
+        for (int m : Nets.STATES) {
+            for (int shows : Nets.outOf(m)) {
+                Nets.apart(m, 1).refuses("lamp(" + shows + ") of " + m + " states", x -> x.lamp(shows), NONE);
             }
             for (int shows = 0; shows < m; shows++) {
                 int state = shows;
-                of(m, 1).due("lamp(" + shows + ")", x -> x.lamp(state), 1);
-                of(m, 1).then(x -> x.lamp(state)).due("it shows", x -> x.of(1, 0), state);
+                Nets.apart(m, 1).due("lamp(" + shows + ")", x -> x.lamp(state), 1);
+                Nets.apart(m, 1).then(x -> x.lamp(state)).due("it shows", x -> x.of(1, 0), state);
             }
         }
     }
 
     static void promise5ThereAreTen() {
-        for (int m : STATES) {
+        for (int m : Nets.STATES) {
             for (int n = 0; n < 10; n++) {
-                of(m, n).due("lamp(1) behind " + n, x -> x.lamp(1), n);
+                Nets.apart(m, n).due("lamp(1) behind " + n, x -> x.lamp(1), n);
             }
             for (int shows = 0; shows < m; shows++) {
                 int state = shows;
-                of(m, 10).refuses("an 11th", x -> x.lamp(state), NONE);
+                Nets.apart(m, 10).refuses("an 11th", x -> x.lamp(state), NONE);
             }
-            of(m, 10).then(x -> Run.yes(x.drop(3))).due("once one has gone", x -> x.lamp(0), 9);
+            Nets.apart(m, 10).then(x -> Run.yes(x.drop(3))).due("once one has gone", x -> x.lamp(0), 9);
         }
     }
 
     static void promise5Own1AndGoal0AndNoWires() {
-        Run used = Run.of("states 5;" + lamps(9) + "lamp 3 own 4 goal 2;wire 0 9 by 3;").then(x -> Run.yes(x.drop(9)));
-        used.then(x -> x.lamp(0)).dueSpelled("where another one was", "states 5;" + lamps(10));
+        Run used = Run.of("states 5;" + Nets.lamps(9) + "lamp 3 own 4 goal 2;wire 0 9 by 3;")
+            .then(x -> Run.yes(x.drop(9)));
+        used.then(x -> x.lamp(0)).dueSpelled("where another one was", "states 5;" + Nets.lamps(10));
         Run laid = Run.of("states 3;lamp 2 own 2 goal 2;lamp 1 own 0;wire 0 1 by 2;")
             .then(x -> x.lay(0, 1, 1), x -> x.lamp(2));
         laid.dueSpelled("behind lay", "states 3;lamp 0;lamp 2;");
@@ -70,15 +51,13 @@ final class BoundariesActsTest {
 
     static void promise6ThereIsNoneSuch() {
         for (int n : new int[] {0, 1, 2, 9, 10}) {
-            for (int lamp : outOf(n)) {
-                if (!isIn(lamp, n)) {
-                    of(3, n).refuses("drop(" + lamp + ") of " + n, x -> Run.yes(x.drop(lamp)), 0);
-                }
+            for (int lamp : Nets.outOf(n)) {
+                Nets.apart(3, n).refuses("drop(" + lamp + ") of " + n, x -> Run.yes(x.drop(lamp)), 0);
             }
             for (int i = 0; i < n; i++) {
                 int lamp = i;
-                of(3, n).due("drop(" + lamp + ") of " + n, x -> Run.yes(x.drop(lamp)), 1);
-                of(3, n).then(x -> Run.yes(x.drop(lamp))).due("one fewer", x -> x.count(1), n - 1);
+                Nets.apart(3, n).due("drop(" + lamp + ") of " + n, x -> Run.yes(x.drop(lamp)), 1);
+                Nets.apart(3, n).then(x -> Run.yes(x.drop(lamp))).due("one fewer", x -> x.count(1), n - 1);
             }
         }
     }
@@ -105,28 +84,28 @@ final class BoundariesActsTest {
 
     static void promise7NoSuchLamps() {
         for (int n : new int[] {0, 1, 2, 10}) {
-            for (int lamp : outOf(n)) {
-                of(3, n).refuses("wire(" + lamp + ", 0, 1) of " + n, x -> x.wire(lamp, 0, 1), NONE);
-                of(3, n).refuses("wire(0, " + lamp + ", 1) of " + n, x -> x.wire(0, lamp, 1), NONE);
-                of(3, n).refuses("wire of " + lamp + " twice", x -> x.wire(lamp, lamp, 1), NONE);
+            for (int lamp : Nets.outOf(n)) {
+                Nets.apart(3, n).refuses("wire(" + lamp + ", 0, 1) of " + n, x -> x.wire(lamp, 0, 1), NONE);
+                Nets.apart(3, n).refuses("wire(0, " + lamp + ", 1) of " + n, x -> x.wire(0, lamp, 1), NONE);
+                Nets.apart(3, n).refuses("wire of " + lamp + " twice", x -> x.wire(lamp, lamp, 1), NONE);
             }
         }
-        of(3, 10).due("wire(0, 9, 1)", x -> x.wire(0, 9, 1), 0);
-        of(3, 10).due("wire(9, 0, 1)", x -> x.wire(9, 0, 1), 0);
+        Nets.apart(3, 10).due("wire(0, 9, 1)", x -> x.wire(0, 9, 1), 0);
+        Nets.apart(3, 10).due("wire(9, 0, 1)", x -> x.wire(9, 0, 1), 0);
     }
 
     static void promise7BothAreOne() {
         for (int weight = 0; weight < 3; weight++) {
             int w = weight;
-            of(3, 2).refuses("wire(0, 0, " + w + ")", x -> x.wire(0, 0, w), NONE);
-            of(3, 2).refuses("wire(1, 1, " + w + ")", x -> x.wire(1, 1, w), NONE);
+            Nets.apart(3, 2).refuses("wire(0, 0, " + w + ")", x -> x.wire(0, 0, w), NONE);
+            Nets.apart(3, 2).refuses("wire(1, 1, " + w + ")", x -> x.wire(1, 1, w), NONE);
         }
     }
 
     static void promise7OutOfBounds() {
-        for (int m : STATES) {
-            Run run = of(m, 3).then(x -> x.wire(0, 1, 1));
-            for (int weight : outOf(m)) {
+        for (int m : Nets.STATES) {
+            Run run = Nets.apart(m, 3).then(x -> x.wire(0, 1, 1));
+            for (int weight : Nets.outOf(m)) {
                 run.refuses("wire(0, 1, " + weight + ") of " + m, x -> x.wire(0, 1, weight), NONE);
                 run.refuses("wire(0, 2, " + weight + ") of " + m, x -> x.wire(0, 2, weight), NONE);
             }
@@ -136,10 +115,10 @@ final class BoundariesActsTest {
     }
 
     static void promise7ItIsSo() {
-        for (int m : STATES) {
+        for (int m : Nets.STATES) {
             for (int weight = 0; weight < m; weight++) {
                 int w = weight;
-                Run run = w == 0 ? of(m, 2) : of(m, 2).then(x -> x.wire(1, 0, w));
+                Run run = w == 0 ? Nets.apart(m, 2) : Nets.apart(m, 2).then(x -> x.wire(1, 0, w));
                 for (int other = 0; other < m; other++) {
                     int o = other;
                     if (o == w) {
@@ -155,9 +134,9 @@ final class BoundariesActsTest {
     }
 
     static void promise7At0ThereIsNone() {
-        Run run = Run.of("states 3;" + lamps(3) + "wire 0 1 by 2;wire 1 2;");
+        Run run = Run.of("states 3;" + Nets.lamps(3) + "wire 0 1 by 2;wire 1 2;");
         run.due("wire(1, 0, 0)", x -> x.wire(1, 0, 0), 2);
-        run.then(x -> x.wire(1, 0, 0)).dueSpelled("spell", "states 3;" + lamps(3) + "wire 1 2;");
+        run.then(x -> x.wire(1, 0, 0)).dueSpelled("spell", "states 3;" + Nets.lamps(3) + "wire 1 2;");
         run.then(x -> x.wire(1, 0, 0)).due("parts", LampPresses::parts, 2);
     }
 
@@ -169,29 +148,28 @@ final class BoundariesActsTest {
 
     private static void noSuchLamp(String name, Setter setter) {
         for (int n : new int[] {0, 1, 2, 10}) {
-            for (int lamp : outOf(n)) {
-                if (!isIn(lamp, n)) {
-                    of(3, n).refuses(name + "(" + lamp + ", 2) of " + n, x -> setter.set(x, lamp, 2), NONE);
-                }
+            for (int lamp : Nets.outOf(n)) {
+                Nets.apart(3, n).refuses(name + "(" + lamp + ", 2) of " + n, x -> setter.set(x, lamp, 2), NONE);
             }
             if (n > 0) {
-                of(3, n).due(name + "(0, 2)", x -> setter.set(x, 0, 2), name.equals("own") ? 1 : 0);
-                of(3, n).due(name + " of the last", x -> setter.set(x, n - 1, 2), name.equals("own") ? 1 : 0);
+                Nets.apart(3, n).due(name + "(0, 2)", x -> setter.set(x, 0, 2), name.equals("own") ? 1 : 0);
+                Nets.apart(3, n).due(name + " of the last", x -> setter.set(x, n - 1, 2), name.equals("own") ? 1 : 0);
             }
         }
     }
 
     private static void outOfBounds(String name, Setter setter) {
-        for (int m : STATES) {
-            for (int value : outOf(m)) {
-                of(m, 2).refuses(name + "(1, " + value + ") of " + m + " states", x -> setter.set(x, 1, value), NONE);
+        for (int m : Nets.STATES) {
+            for (int value : Nets.outOf(m)) {
+                Nets.apart(m, 2).refuses(name + "(1, " + value + ") of " + m + " states",
+                    x -> setter.set(x, 1, value), NONE);
             }
         }
     }
 
     /** Each value set behind each value: which it was, or, if it is the same, NONE. */
     private static void itIsSo(String name, Setter setter, int what) {
-        for (int m : STATES) {
+        for (int m : Nets.STATES) {
             for (int i = 0; i < m * m; i++) {
                 int was = i / m;
                 int value = i % m;
@@ -247,7 +225,7 @@ final class BoundariesActsTest {
     }
 
     static void promise10ItIsNoPress() {
-        Run run = of(3, 2).then(x -> x.wire(0, 1, 1), x -> x.show(0, 2));
+        Run run = Nets.apart(3, 2).then(x -> x.wire(0, 1, 1), x -> x.show(0, 2));
         run.due("presses", x -> x.count(5), 0);
         run.due("entries", x -> x.count(7), 0);
         run.due("the wired one", x -> x.of(1, 0), 0);
@@ -257,22 +235,20 @@ final class BoundariesActsTest {
 
     static void promise11NoSuchLamp() {
         for (int n : new int[] {0, 1, 2, 10}) {
-            for (int lamp : outOf(n)) {
-                if (!isIn(lamp, n)) {
-                    of(3, n).refuses("press(" + lamp + ", 1) of " + n, x -> x.press(lamp, 1), NONE);
-                }
+            for (int lamp : Nets.outOf(n)) {
+                Nets.apart(3, n).refuses("press(" + lamp + ", 1) of " + n, x -> x.press(lamp, 1), NONE);
             }
             if (n > 0) {
-                of(3, n).due("press(0, 1)", x -> x.press(0, 1), 1);
-                of(3, n).due("press of the last", x -> x.press(n - 1, 1), 1);
+                Nets.apart(3, n).due("press(0, 1)", x -> x.press(0, 1), 1);
+                Nets.apart(3, n).due("press of the last", x -> x.press(n - 1, 1), 1);
             }
         }
     }
 
     static void promise11OneToNineTimes() {
-        for (int m : STATES) {
-            Run run = of(m, 2);
-            for (int times : new int[] {0, -1, -9, 10, 11, 41, 64, LEAST, GREATEST}) {
+        for (int m : Nets.STATES) {
+            Run run = Nets.apart(m, 2);
+            for (int times : new int[] {0, -1, -9, 10, 11, 41, 64, Nets.LEAST, Nets.GREATEST}) {
                 run.refuses("press(1, " + times + ")", x -> x.press(1, times), NONE);
             }
             for (int n = 1; n <= 9; n++) {
@@ -286,7 +262,7 @@ final class BoundariesActsTest {
     }
 
     static void promise11ItGoesRoundAtM() {
-        for (int m : STATES) {
+        for (int m : Nets.STATES) {
             for (int i = 0; i < m * m * m; i++) {
                 int shows = i % m;
                 int step = i / m % m;
@@ -315,7 +291,7 @@ final class BoundariesActsTest {
 
     static void promise12NoneWould() {
         Run.anew().refuses("no lamps", LampPresses::aim, NONE);
-        of(3, 1).refuses("one", LampPresses::aim, NONE);
+        Nets.apart(3, 1).refuses("one", LampPresses::aim, NONE);
         Run.of("states 5;lamp 4 goal 4;lamp 1 goal 1;lamp 0;").refuses("all are there", LampPresses::aim, NONE);
         Run once = Run.of("states 5;lamp 4;lamp 1;").then(LampPresses::aim);
         once.refuses("a second time", LampPresses::aim, NONE);
@@ -340,13 +316,13 @@ final class BoundariesActsTest {
         Run.of("states 3;lamp 1;lamp 0;wire 0 1;").refuses("two that go together", LampPresses::solve, -2);
         Run.of("states 5;" + "lamp 0 own 0;".repeat(9) + "lamp 0 own 0 goal 1;")
             .refuses("with 9765625 quiet rows", LampPresses::solve, -2);
-        Run pressed = of(5, 2).then(x -> x.press(0, 2), x -> x.own(0, 0));
+        Run pressed = Nets.apart(5, 2).then(x -> x.press(0, 2), x -> x.own(0, 0));
         pressed.refuses("behind acts", LampPresses::solve, -2);
     }
 
     static void promise13ItHasNoPress() {
         Run.anew().refuses("no lamps", LampPresses::solve, NONE);
-        of(5, 10).refuses("all are there", LampPresses::solve, NONE);
+        Nets.apart(5, 10).refuses("all are there", LampPresses::solve, NONE);
         Run.of("states 3;lamp 2 goal 2;lamp 1 goal 1;wire 0 1;")
             .refuses("the first of several has none", LampPresses::solve, NONE);
         Run.of("states 3;lamp 2 own 0 goal 2;").refuses("own 0", LampPresses::solve, NONE);
@@ -381,7 +357,7 @@ final class BoundariesActsTest {
     }
 
     static void promise13TheBookKeepsTwenty() {
-        Run run = of(5, 10).times(9, x -> x.press(0, 5)).then(x -> x.press(1, 5)).times(2, x -> x.press(0, 5))
+        Run run = Nets.apart(5, 10).times(9, x -> x.press(0, 5)).then(x -> x.press(1, 5)).times(2, x -> x.press(0, 5))
             .then(x -> x.lift(1));
         run.due("twelve entries", x -> x.count(7), 12);
         Run solved = run.then(LampPresses::solve);
@@ -398,7 +374,7 @@ final class BoundariesActsTest {
     // ---- lay
 
     private static void lays(int kind, int a, int b, String wires) {
-        StringBuilder text = new StringBuilder("states 3;" + lamps(a * b));
+        StringBuilder text = new StringBuilder("states 3;" + Nets.lamps(a * b));
         for (String pair : wires.isEmpty() ? new String[0] : wires.split(" ")) {
             text.append("wire ").append(pair.charAt(0)).append(' ').append(pair.charAt(1)).append(';');
         }
@@ -420,7 +396,7 @@ final class BoundariesActsTest {
         lays(2, 3, 1, "01 12");
         lays(3, 3, 1, "01 02 12");
         lays(4, 3, 1, "01 02");
-        for (int kind : new int[] {-1, 5, 6, -2, LEAST, GREATEST}) {
+        for (int kind : new int[] {-1, 5, 6, -2, Nets.LEAST, Nets.GREATEST}) {
             laysNothing(kind, 3, 1);
         }
     }
@@ -433,8 +409,8 @@ final class BoundariesActsTest {
         laysNothing(0, 0, 1);
         laysNothing(0, -1, 1);
         laysNothing(0, 11, 1);
-        laysNothing(0, LEAST, 1);
-        laysNothing(0, GREATEST, 1);
+        laysNothing(0, Nets.LEAST, 1);
+        laysNothing(0, Nets.GREATEST, 1);
     }
 
     static void promise14ARingOf3To10() {
@@ -442,7 +418,7 @@ final class BoundariesActsTest {
         lays(1, 4, 1, "01 03 12 23");
         lays(1, 9, 1, "01 08 12 23 34 45 56 67 78");
         lays(1, 10, 1, "01 09 12 23 34 45 56 67 78 89");
-        for (int a : new int[] {2, 1, 0, -1, -3, 11, LEAST, GREATEST}) {
+        for (int a : new int[] {2, 1, 0, -1, -3, 11, Nets.LEAST, Nets.GREATEST}) {
             laysNothing(1, a, 1);
         }
     }
@@ -458,7 +434,7 @@ final class BoundariesActsTest {
             }
         }
         lays(3, 10, 1, all.toString().trim());
-        for (int a : new int[] {0, -1, 11, LEAST, GREATEST}) {
+        for (int a : new int[] {0, -1, 11, Nets.LEAST, Nets.GREATEST}) {
             laysNothing(3, a, 1);
         }
     }
@@ -468,14 +444,14 @@ final class BoundariesActsTest {
         lays(4, 2, 1, "01");
         lays(4, 9, 1, "01 02 03 04 05 06 07 08");
         lays(4, 10, 1, "01 02 03 04 05 06 07 08 09");
-        for (int a : new int[] {0, -1, 11, LEAST, GREATEST}) {
+        for (int a : new int[] {0, -1, 11, Nets.LEAST, Nets.GREATEST}) {
             laysNothing(4, a, 1);
         }
     }
 
     static void promise14BIs1ButForKind2() {
         for (int kind : new int[] {0, 1, 3, 4}) {
-            for (int b : new int[] {0, 2, 3, -1, LEAST, GREATEST}) {
+            for (int b : new int[] {0, 2, 3, -1, Nets.LEAST, Nets.GREATEST}) {
                 laysNothing(kind, 3, b);
             }
         }
@@ -492,15 +468,16 @@ final class BoundariesActsTest {
         lays(2, 3, 3, "01 03 12 14 25 34 36 45 47 58 67 78");
         lays(2, 2, 2, "01 02 13 23");
         int[][] wrong = {{1, 11}, {11, 1}, {2, 6}, {6, 2}, {3, 4}, {4, 3}, {10, 2}, {2, 10}, {0, 1}, {1, 0}, {0, 0},
-            {-1, 1}, {1, -1}, {-1, -1}, {-2, -5}, {10, 0}, {65536, 65536}, {1 << 16, 1 << 15}, {GREATEST, GREATEST},
-            {LEAST, LEAST}, {LEAST, 2}, {2, LEAST}, {1, GREATEST}, {GREATEST, 1}};
+            {-1, 1}, {1, -1}, {-1, -1}, {-2, -5}, {10, 0}, {65536, 65536}, {1 << 16, 1 << 15},
+            {Nets.GREATEST, Nets.GREATEST}, {Nets.LEAST, Nets.LEAST}, {Nets.LEAST, 2}, {2, Nets.LEAST},
+            {1, Nets.GREATEST}, {Nets.GREATEST, 1}};
         for (int[] w : wrong) {
             laysNothing(2, w[0], w[1]);
         }
     }
 
     static void promise14PressedAndTheBookStay() {
-        Run run = of(5, 3).then(x -> x.press(2, 7), x -> x.lay(0, 1, 1));
+        Run run = Nets.apart(5, 3).then(x -> x.press(2, 7), x -> x.lay(0, 1, 1));
         run.due("M", x -> x.count(0), 5);
         run.due("PRESSED", x -> x.count(5), 7);
         run.due("entries", x -> x.count(7), 1);
@@ -509,7 +486,7 @@ final class BoundariesActsTest {
     }
 
     static void promise14TheSameAgainIsAnAct() {
-        Run run = of(3, 0).times(2, x -> x.lay(3, 4, 1));
+        Run run = Nets.apart(3, 0).times(2, x -> x.lay(3, 4, 1));
         run.due("acts", x -> x.count(3), 2);
     }
 
@@ -517,16 +494,14 @@ final class BoundariesActsTest {
 
     static void promise15NoSuchOnes() {
         for (int n : new int[] {0, 1, 2, 10}) {
-            for (int lamp : outOf(n)) {
-                if (!isIn(lamp, n)) {
-                    of(3, n).refuses("swap(0, " + lamp + ")", x -> Run.yes(x.swap(0, lamp)), 0);
-                    of(3, n).refuses("swap(" + lamp + ", 0)", x -> Run.yes(x.swap(lamp, 0)), 0);
-                    of(3, n).refuses("swap of " + lamp + " twice", x -> Run.yes(x.swap(lamp, lamp)), 0);
-                }
+            for (int lamp : Nets.outOf(n)) {
+                Nets.apart(3, n).refuses("swap(0, " + lamp + ")", x -> Run.yes(x.swap(0, lamp)), 0);
+                Nets.apart(3, n).refuses("swap(" + lamp + ", 0)", x -> Run.yes(x.swap(lamp, 0)), 0);
+                Nets.apart(3, n).refuses("swap of " + lamp + " twice", x -> Run.yes(x.swap(lamp, lamp)), 0);
             }
         }
-        of(3, 10).due("swap(0, 9)", x -> Run.yes(x.swap(0, 9)), 1);
-        of(3, 10).due("swap(9, 8)", x -> Run.yes(x.swap(9, 8)), 1);
+        Nets.apart(3, 10).due("swap(0, 9)", x -> Run.yes(x.swap(0, 9)), 1);
+        Nets.apart(3, 10).due("swap(9, 8)", x -> Run.yes(x.swap(9, 8)), 1);
     }
 
     static void promise15BothAreOne() {
@@ -546,32 +521,32 @@ final class BoundariesActsTest {
             "states 5;lamp 2 goal 1;lamp 1 own 2;lamp 3;wire 0 1 by 2;wire 1 2 by 4;");
         run.times(2, x -> Run.yes(x.swap(1, 2))).dueSpelled("twice", run.spelled());
         run.times(2, x -> Run.yes(x.swap(1, 2))).due("two acts", x -> x.count(3), 2);
-        of(2, 2).then(x -> Run.yes(x.swap(0, 1))).due("of two alike: an act", x -> x.count(3), 1);
+        Nets.apart(2, 2).then(x -> Run.yes(x.swap(0, 1))).due("of two alike: an act", x -> x.count(3), 1);
     }
 
     // ---- lift
 
     static void promise16OutOfBounds() {
-        for (int m : STATES) {
-            for (int v : outOf(m)) {
-                of(m, 2).refuses("lift(" + v + ") of " + m + " states", x -> x.lift(v), NONE);
+        for (int m : Nets.STATES) {
+            for (int v : Nets.outOf(m)) {
+                Nets.apart(m, 2).refuses("lift(" + v + ") of " + m + " states", x -> x.lift(v), NONE);
             }
-            of(m, 2).refuses("lift(0)", x -> x.lift(0), NONE);
-            of(m, 2).due("lift(1)", x -> x.lift(1), 2);
-            of(m, 2).due("lift(M less 1)", x -> x.lift(m - 1), 2);
+            Nets.apart(m, 2).refuses("lift(0)", x -> x.lift(0), NONE);
+            Nets.apart(m, 2).due("lift(1)", x -> x.lift(1), 2);
+            Nets.apart(m, 2).due("lift(M less 1)", x -> x.lift(m - 1), 2);
         }
     }
 
     static void promise16ThereAreNone() {
-        for (int m : STATES) {
+        for (int m : Nets.STATES) {
             Run.of("states " + m + ";").refuses("lift(1)", x -> x.lift(1), NONE);
-            of(m, 1).due("of one", x -> x.lift(1), 1);
-            of(m, 10).due("of ten", x -> x.lift(1), 10);
+            Nets.apart(m, 1).due("of one", x -> x.lift(1), 1);
+            Nets.apart(m, 10).due("of ten", x -> x.lift(1), 10);
         }
     }
 
     static void promise16ItGoesRoundAtM() {
-        for (int m : STATES) {
+        for (int m : Nets.STATES) {
             StringBuilder text = new StringBuilder("states " + m + ";");
             for (int shows = 0; shows < m; shows++) {
                 text.append("lamp ").append(shows).append(" own 0 goal 1;");
@@ -592,17 +567,17 @@ final class BoundariesActsTest {
     // ---- scale
 
     static void promise17OutOfBounds() {
-        for (int m : STATES) {
-            Run run = of(m, 2).then(x -> x.wire(0, 1, 1));
-            for (int u : outOf(m)) {
+        for (int m : Nets.STATES) {
+            Run run = Nets.apart(m, 2).then(x -> x.wire(0, 1, 1));
+            for (int u : Nets.outOf(m)) {
                 run.refuses("scale(" + u + ") of " + m + " states", x -> x.scale(u), NONE);
             }
             run.refuses("scale(0)", x -> x.scale(0), NONE);
             run.refuses("scale(1)", x -> x.scale(1), NONE);
         }
-        of(3, 2).due("scale(2), M less 1", x -> x.scale(2), 2);
-        of(5, 2).due("scale(2)", x -> x.scale(2), 2);
-        of(5, 2).due("scale(4), M less 1", x -> x.scale(4), 2);
+        Nets.apart(3, 2).due("scale(2), M less 1", x -> x.scale(2), 2);
+        Nets.apart(5, 2).due("scale(2)", x -> x.scale(2), 2);
+        Nets.apart(5, 2).due("scale(4), M less 1", x -> x.scale(4), 2);
     }
 
     static void promise17NoneWould() {
@@ -614,7 +589,7 @@ final class BoundariesActsTest {
             still.then(x -> x.own(1, 1)).due("one own step", x -> x.scale(2), 1);
             still.then(x -> x.own(1, 1), x -> x.wire(0, 1, 1)).due("both", x -> x.scale(2), 2);
         }
-        Run all = of(5, 0).then(x -> x.lay(3, 10, 1));
+        Run all = Nets.apart(5, 0).then(x -> x.lay(3, 10, 1));
         all.due("the most", x -> x.scale(3), 55);
     }
 
@@ -641,8 +616,8 @@ final class BoundariesActsTest {
         Run.anew().refuses("none", LampPresses::mirror, NONE);
         Run.of("states 3;lamp 2 own 0 goal 1;").refuses("one", LampPresses::mirror, NONE);
         for (int n = 2; n <= 10; n++) {
-            of(3, n).due("of " + n, LampPresses::mirror, n);
-            of(3, n).then(LampPresses::mirror).due("an act", x -> x.count(3), 1);
+            Nets.apart(3, n).due("of " + n, LampPresses::mirror, n);
+            Nets.apart(3, n).then(LampPresses::mirror).due("an act", x -> x.count(3), 1);
         }
     }
 
@@ -656,7 +631,7 @@ final class BoundariesActsTest {
         four.dueSpelled("four", "states 5;lamp 3;lamp 2;lamp 1;lamp 0;wire 0 3 by 4;wire 1 2 by 3;wire 2 3 by 2;");
         four.then(LampPresses::mirror).dueSpelled("and back",
             "states 5;lamp 0;lamp 1;lamp 2;lamp 3;wire 0 1 by 2;wire 0 3 by 4;wire 1 2 by 3;");
-        Run ten = of(5, 0).then(x -> x.lay(4, 10, 1), LampPresses::mirror);
+        Run ten = Nets.apart(5, 0).then(x -> x.lay(4, 10, 1), LampPresses::mirror);
         ten.due("the hub of ten", LampPresses::hub, 9);
     }
 
@@ -664,16 +639,16 @@ final class BoundariesActsTest {
 
     static void promise19NoneCan() {
         Run.anew().refuses("a new object", LampPresses::undo, NONE);
-        of(3, 2).refuses("behind a text", LampPresses::undo, NONE);
-        Run one = of(3, 2).then(x -> x.press(0, 1));
+        Nets.apart(3, 2).refuses("behind a text", LampPresses::undo, NONE);
+        Run one = Nets.apart(3, 2).then(x -> x.press(0, 1));
         one.due("one can", LampPresses::undo, 0);
         one.then(LampPresses::undo).refuses("no second one", LampPresses::undo, NONE);
-        Check.due("undone", one.then(LampPresses::undo).whole(), of(3, 2).whole());
+        Check.due("undone", one.then(LampPresses::undo).whole(), Nets.apart(3, 2).whole());
     }
 
     static void promise19TheLatestTwelve() {
         for (int acts : new int[] {1, 11, 12, 13, 14, 24, 25, 40}) {
-            Run run = of(5, 1).times(acts, x -> x.press(0, 1));
+            Run run = Nets.apart(5, 1).times(acts, x -> x.press(0, 1));
             int kept = Math.min(acts, 12);
             run.due("acts of " + acts, x -> x.count(3), kept);
             for (int k = 1; k <= kept; k++) {
@@ -688,7 +663,7 @@ final class BoundariesActsTest {
     }
 
     static void promise19ActsBehindUndo() {
-        Run twelve = of(5, 1).times(12, x -> x.press(0, 1));
+        Run twelve = Nets.apart(5, 1).times(12, x -> x.press(0, 1));
         Run mixed = twelve.times(5, LampPresses::undo).times(4, x -> x.press(0, 2));
         mixed.due("seven and four", x -> x.count(3), 11);
         mixed.then(x -> x.press(0, 3)).due("and one", x -> x.count(3), 12);
@@ -714,7 +689,7 @@ final class BoundariesActsTest {
     }
 
     static void promise19FeedAndBackAreNoActs() {
-        Run run = of(3, 1).then(x -> x.press(0, 1)).put("lamp 1;lamp 0;");
+        Run run = Nets.apart(3, 1).then(x -> x.press(0, 1)).put("lamp 1;lamp 0;");
         run.due("acts", x -> x.count(3), 1);
         run.then(LampPresses::undo).due("the tape stays", x -> x.count(4), 14);
         run.then(LampPresses::undo).due("as it was", LampPresses::text, 2);
@@ -735,7 +710,7 @@ final class BoundariesActsTest {
 
     static void promise19PressedAndTheBookAreUndone() {
         for (int presses : new int[] {19, 20, 21, 22}) {
-            Run run = of(5, 2).times(presses, x -> x.press(x.count(5) % 2, 1));
+            Run run = Nets.apart(5, 2).times(presses, x -> x.press(x.count(5) % 2, 1));
             Run more = run.then(x -> x.press(1, 9));
             Check.due("undone behind " + presses, more.then(LampPresses::undo).booked(), run.booked());
         }

@@ -1,7 +1,6 @@
 /** Boundary cases of promises 1 to 4 and of the terms that bound a TEXT: a method for each sentence that names one. */
 final class BoundariesToldTest {
     private static final int NONE = LampPresses.NONE;
-    private static final int[] STATES = {2, 3, 5};
     /** Signs just outside of those that may stand in a TEXT. */
     private static final int[] STRANGE = {0, 9, 11, 13, 31, 33, 47, 58, 60, 64, 65, 90, 91, 96, 123, 127, 128, 138,
         160, 187, 255};
@@ -26,10 +25,6 @@ final class BoundariesToldTest {
         Run run = Run.of("states 5;lamp 4;").put(text);
         run.due("text() of \"" + text + "\"", LampPresses::text, -4 - at);
         run.then(LampPresses::text).dueSpelled("spell behind \"" + text + "\"", "states 5;lamp 4;");
-    }
-
-    private static String lamps(int n) {
-        return "lamp 0;".repeat(n);
     }
 
     // ---- a new object
@@ -193,7 +188,7 @@ final class BoundariesToldTest {
         Run run = Run.of("states 3;lamp 1;lamp 2 own 2;wire 0 1;").then(x -> x.press(0, 9), x -> x.goal(1, 2),
             x -> x.press(1, 1), LampPresses::solve, x -> x.wire(0, 1, 2));
         for (String text : new String[] {"?", "states 4;", "states 5", "states 5;lamp 4;lamp 4;wire 0 1 by 5;",
-            "states 5;" + lamps(11)}) {
+            "states 5;" + Nets.lamps(11)}) {
             Check.due("all else stays behind " + text, run.told(text).whole(), run.whole());
         }
     }
@@ -234,14 +229,14 @@ final class BoundariesToldTest {
         fault("states 3; states 5;", 10);
         fault("lamp 1;states 3;", 7);
         fault("states 3;lamp 1;states 3;", 16);
-        fault(lamps(2) + "wire 0 1;states 2;", 23);
+        fault(Nets.lamps(2) + "wire 0 1;states 2;", 23);
         fault("lamp 1 states 3;", 7);
         fault("lamp states 3;", 5);
         fault(";states 3;", 0);
     }
 
     static void promise4WhatALampShows() {
-        for (int m : STATES) {
+        for (int m : Nets.STATES) {
             for (int digit = 0; digit <= 9; digit++) {
                 String text = "states " + m + ";lamp " + digit + ";";
                 if (digit < m) {
@@ -254,7 +249,7 @@ final class BoundariesToldTest {
     }
 
     static void promise4OwnIs0UpToMLess1And1Without() {
-        for (int m : STATES) {
+        for (int m : Nets.STATES) {
             for (int digit = 0; digit <= 9; digit++) {
                 String text = "states " + m + ";lamp 0 own " + digit + ";";
                 if (digit < m) {
@@ -270,7 +265,7 @@ final class BoundariesToldTest {
     }
 
     static void promise4GoalIs0UpToMLess1And0Without() {
-        for (int m : STATES) {
+        for (int m : Nets.STATES) {
             for (int digit = 0; digit <= 9; digit++) {
                 String text = "states " + m + ";lamp 1 goal " + digit + ";";
                 if (digit < m) {
@@ -289,8 +284,8 @@ final class BoundariesToldTest {
     }
 
     static void promise4WeightIs1UpToMLess1And1Without() {
-        for (int m : STATES) {
-            String ahead = "states " + m + ";" + lamps(2);
+        for (int m : Nets.STATES) {
+            String ahead = "states " + m + ";" + Nets.lamps(2);
             for (int digit = 0; digit <= 9; digit++) {
                 String text = ahead + "wire 0 1 by " + digit + ";";
                 if (digit >= 1 && digit < m) {
@@ -307,29 +302,30 @@ final class BoundariesToldTest {
 
     static void promise4An11thLampAtItsWord() {
         for (int n = 0; n <= 10; n++) {
-            Run.anew().put(lamps(n)).due(n + " lamps", LampPresses::text, n);
+            Run.anew().put(Nets.lamps(n)).due(n + " lamps", LampPresses::text, n);
         }
-        fault(lamps(11), 70);
-        fault(lamps(12), 70);
-        fault(lamps(10) + "\n lamp 0;", 72);
-        fault(lamps(10) + "lamp 7;", 70);
-        fault(lamps(10) + "lamp", 70);
-        fault(lamps(10) + "wire 0 9;lamp 0;", 79);
-        good(lamps(10) + "wire 0 9;", "states 2;" + lamps(10) + "wire 0 9;");
+        fault(Nets.lamps(11), 70);
+        fault(Nets.lamps(12), 70);
+        fault(Nets.lamps(10) + "\n lamp 0;", 72);
+        fault(Nets.lamps(10) + "lamp 7;", 70);
+        fault(Nets.lamps(10) + "lamp", 70);
+        fault(Nets.lamps(10) + "wire 0 9;lamp 0;", 79);
+        good(Nets.lamps(10) + "wire 0 9;", "states 2;" + Nets.lamps(10) + "wire 0 9;");
     }
 
     static void promise4LampsToldAhead() {
         for (int n = 0; n <= 10; n++) {
             for (int digit = 0; digit <= 9; digit++) {
                 if (digit >= n) {
-                    fault(lamps(n) + "wire " + digit + " 0;", 7 * n + 5);
+                    fault(Nets.lamps(n) + "wire " + digit + " 0;", 7 * n + 5);
                 }
                 if (digit >= n && n > 0) {
-                    fault(lamps(n) + "wire 0 " + digit + ";", 7 * n + 7);
+                    fault(Nets.lamps(n) + "wire 0 " + digit + ";", 7 * n + 7);
                 }
                 if (digit > 0 && digit < n) {
-                    good(lamps(n) + "wire 0 " + digit + ";", "states 2;" + lamps(n) + "wire 0 " + digit + ";");
-                    good(lamps(n) + "wire " + digit + " 0;", "states 2;" + lamps(n) + "wire 0 " + digit + ";");
+                    String spelled = "states 2;" + Nets.lamps(n) + "wire 0 " + digit + ";";
+                    good(Nets.lamps(n) + "wire 0 " + digit + ";", spelled);
+                    good(Nets.lamps(n) + "wire " + digit + " 0;", spelled);
                 }
             }
         }
@@ -341,19 +337,20 @@ final class BoundariesToldTest {
     static void promise4TheSecondLampIsTheFirstOne() {
         for (int n = 1; n <= 10; n++) {
             int last = n - 1;
-            fault(lamps(n) + "wire 0 0;", 7 * n + 7);
-            fault(lamps(n) + "wire " + last + " " + last + ";", 7 * n + 7);
+            fault(Nets.lamps(n) + "wire 0 0;", 7 * n + 7);
+            fault(Nets.lamps(n) + "wire " + last + " " + last + ";", 7 * n + 7);
         }
         fault("states 3;lamp 0;lamp 0 own 0;wire 1 1 by 2;", 36);
     }
 
     static void promise4TheSecondLampIsWiredToItAlready() {
-        fault(lamps(3) + "wire 0 1;wire 0 1;", 37);
-        fault(lamps(3) + "wire 0 1;wire 1 0;", 37);
-        fault("states 3;" + lamps(3) + "wire 1 0 by 2;wire 0 1 by 1;", 51);
-        good(lamps(3) + "wire 0 1;wire 0 2;wire 2 1;", "states 2;" + lamps(3) + "wire 0 1;wire 0 2;wire 1 2;");
+        fault(Nets.lamps(3) + "wire 0 1;wire 0 1;", 37);
+        fault(Nets.lamps(3) + "wire 0 1;wire 1 0;", 37);
+        fault("states 3;" + Nets.lamps(3) + "wire 1 0 by 2;wire 0 1 by 1;", 51);
+        good(Nets.lamps(3) + "wire 0 1;wire 0 2;wire 2 1;",
+            "states 2;" + Nets.lamps(3) + "wire 0 1;wire 0 2;wire 1 2;");
         // A text that was told earlier has no part in it.
-        Run.of(lamps(2) + "wire 0 1;").put(lamps(2) + "wire 0 1;").due("a second text", LampPresses::text, 2);
+        Run.of(Nets.lamps(2) + "wire 0 1;").put(Nets.lamps(2) + "wire 0 1;").due("a second text", LampPresses::text, 2);
     }
 
     static void promise4WordsAsFarAsSmallLettersGoOn() {
@@ -375,10 +372,10 @@ final class BoundariesToldTest {
         fault("lamp 0 goa 1;", 7);
         fault("lamp 0 goals 1;", 7);
         fault("lamp 0 owngoal 1;", 7);
-        fault(lamps(2) + "wires 0 1;", 14);
-        fault(lamps(2) + "wir 0 1;", 14);
-        fault(lamps(2) + "wire 0 1 b 1;", 23);
-        fault(lamps(2) + "wire 0 1 bye 1;", 23);
+        fault(Nets.lamps(2) + "wires 0 1;", 14);
+        fault(Nets.lamps(2) + "wir 0 1;", 14);
+        fault(Nets.lamps(2) + "wire 0 1 b 1;", 23);
+        fault(Nets.lamps(2) + "wire 0 1 bye 1;", 23);
     }
 
     static void promise4ANumberIsOneDigit() {
@@ -388,10 +385,10 @@ final class BoundariesToldTest {
         fault("states 02;", 7);
         fault("lamp 0 own 11;", 12);
         fault("lamp 0 goal 01;", 13);
-        fault(lamps(2) + "wire 00 1;", 20);
-        fault(lamps(2) + "wire 0 11;", 22);
-        fault(lamps(2) + "wire 0 1 by 11;", 27);
-        fault(lamps(10) + "wire 0 10;", 78);
+        fault(Nets.lamps(2) + "wire 00 1;", 20);
+        fault(Nets.lamps(2) + "wire 0 11;", 22);
+        fault(Nets.lamps(2) + "wire 0 1 by 11;", 27);
+        fault(Nets.lamps(10) + "wire 0 10;", 78);
         fault("lamp /;", 5);
         fault("lamp :;", 5);
         fault("lamp -1;", 5);
@@ -477,14 +474,14 @@ final class BoundariesToldTest {
     }
 
     static void promise4TwoLampsThenByOnceAtMost() {
-        fault(lamps(2) + "wire;", 18);
-        fault(lamps(2) + "wire 0;", 20);
-        fault(lamps(2) + "wire 0 by 1;", 21);
-        fault(lamps(2) + "wire 0 1 1;", 23);
-        fault(lamps(2) + "wire 0 1 by;", 25);
-        fault(lamps(2) + "wire 0 1 by 1 by 1;", 28);
-        fault(lamps(2) + "wire 0 1 own 1;", 23);
-        fault(lamps(2) + "wire 0 1 goal 1;", 23);
+        fault(Nets.lamps(2) + "wire;", 18);
+        fault(Nets.lamps(2) + "wire 0;", 20);
+        fault(Nets.lamps(2) + "wire 0 by 1;", 21);
+        fault(Nets.lamps(2) + "wire 0 1 1;", 23);
+        fault(Nets.lamps(2) + "wire 0 1 by;", 25);
+        fault(Nets.lamps(2) + "wire 0 1 by 1 by 1;", 28);
+        fault(Nets.lamps(2) + "wire 0 1 own 1;", 23);
+        fault(Nets.lamps(2) + "wire 0 1 goal 1;", 23);
         fault("states 2 3;", 9);
         fault("states;", 6);
         fault("states by 2;", 7);
@@ -508,17 +505,17 @@ final class BoundariesToldTest {
         fault("lamp 7;lamp 8;", 5);
         fault("lamp 0 own 7 goal 8;", 11);
         fault("states 4;lamp 9;?", 7);
-        fault(lamps(2) + "wire 5 6 by 7;", 19);
-        fault(lamps(2) + "wire 0 6 by 7;", 21);
-        fault(lamps(2) + "wire 0 0 by 7;", 21);
+        fault(Nets.lamps(2) + "wire 5 6 by 7;", 19);
+        fault(Nets.lamps(2) + "wire 0 6 by 7;", 21);
+        fault(Nets.lamps(2) + "wire 0 0 by 7;", 21);
         fault("lamp 0 ?;lamp", 7);
     }
 
     static void promise4HowManyLamps() {
         for (int n = 0; n <= 10; n++) {
-            Run.anew().put("states 5;" + lamps(n)).due("text() of " + n, LampPresses::text, n);
+            Run.anew().put("states 5;" + Nets.lamps(n)).due("text() of " + n, LampPresses::text, n);
             int want = n;
-            Run.of("states 5;" + lamps(n)).due("count(1)", x -> x.count(1), want);
+            Run.of("states 5;" + Nets.lamps(n)).due("count(1)", x -> x.count(1), want);
         }
     }
 }
