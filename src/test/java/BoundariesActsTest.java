@@ -329,7 +329,17 @@ final class BoundariesActsTest {
     }
 
     static void promise13HowManyPresses() {
-        Run.of("lamp 1;").due("one", LampPresses::solve, 1);
+        for (int m : Nets.STATES) {
+            for (int i = 1; i < m; i++) {
+                int presses = i;
+                Run run = Nets.apart(m, 2).then(x -> x.goal(1, presses));
+                run.due(i + " of one lamp", LampPresses::solve, i);
+                run.then(LampPresses::solve).due("it shows its goal", x -> x.of(1, 0), i);
+                run.then(LampPresses::solve).due("PRESSED", x -> x.count(5), i);
+                run.then(LampPresses::solve).due("one entry", x -> x.count(7), 1);
+                run.then(LampPresses::solve).due("how often", x -> x.book(0, 1), i);
+            }
+        }
         Run most = Run.of("states 5;" + "lamp 1;".repeat(10));
         most.due("the most", LampPresses::solve, 40);
         most.then(LampPresses::solve).due("PRESSED", x -> x.count(5), 40);

@@ -168,6 +168,10 @@ final class BoundariesAskedTest {
             run.due("base(" + k + ", " + lamp + ")", x -> x.base(k, lamp), due[k][lamp]);
         }
         run.due("base(2, 0)", x -> x.base(2, 0), NONE);
+        Run fewer = Nets.still(3, 2).then(x -> x.base(0, 0), x -> x.own(0, 1));
+        fewer.due("lamp 0 can't be chosen any more", x -> x.base(0, 0), 0);
+        fewer.due("lamp 1 can", x -> x.base(0, 1), 1);
+        fewer.due("no second one", x -> x.base(1, 1), NONE);
     }
 
     // ---- plans
@@ -270,6 +274,10 @@ final class BoundariesAskedTest {
                 }
             }
         }
+        // Of 125 plans 0003 is the first of those with three presses.
+        Run three = Nets.laid(5, 3, 4).then(x -> x.lift(2));
+        three.due("three", x -> x.fewest(NONE), 3);
+        three.due("0003", x -> x.fewest(3), 3);
         // Two presses: 02, 11, 20.
         Run two = Nets.laid(3, 0, 2).then(x -> x.lift(1));
         two.due("two", x -> x.fewest(NONE), 2);
@@ -495,6 +503,12 @@ final class BoundariesAskedTest {
             Run last = Nets.apart(m, 10).then(x -> x.show(9, 1));
             last.due("by the last alone", x -> x.only(512), 1);
             last.due("by all but the last", x -> x.only(511), 0);
+            Run pair = Nets.still(m, 2).then(x -> x.wire(0, 1, 1), x -> x.goal(0, 1));
+            pair.due("by the one that is wired to it", x -> x.only(2), 1);
+            pair.due("not by itself", x -> x.only(1), 0);
+            Run first = Nets.apart(m, 10).then(x -> x.show(0, 1));
+            first.due("by the first alone", x -> x.only(1), 1);
+            first.due("by all but the first", x -> x.only(1022), 0);
         }
     }
 

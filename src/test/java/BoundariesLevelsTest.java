@@ -312,6 +312,10 @@ final class BoundariesLevelsTest {
                 Nets.still(m, n).due("of " + n + " that do nothing", x -> x.without(n - 1), 0);
                 Nets.laid(m, 3, n).due("of " + n + " that do the same", x -> x.without(0), n == 1 ? 0 : 1);
             }
+            Run pair = Nets.still(m, 2).then(x -> x.wire(0, 1, 1));
+            pair.due("two by their wire alone", LampPresses::rank, 2);
+            pair.due("without the first", x -> x.without(0), 0);
+            pair.due("without the second", x -> x.without(1), 0);
             // Without lamp 0 the others do nothing more.
             Run star = Nets.still(m, 10);
             for (int i = 1; i < 10; i++) {

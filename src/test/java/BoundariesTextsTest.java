@@ -164,6 +164,19 @@ final class BoundariesTextsTest {
         Run.of("states 5;lamp 1;lamp 1;lamp 2;").dueReported("eleven", "press 0 4;press 1 4;press 2 3;done 11;");
     }
 
+    static void promise55PressesTogetherFrom0To40() {
+        for (int presses = 0; presses <= 40; presses++) {
+            StringBuilder text = new StringBuilder("states 5;");
+            StringBuilder due = new StringBuilder();
+            for (int lamp = 0; lamp < 10; lamp++) {
+                int times = Math.max(0, Math.min(4, presses - 4 * lamp));
+                text.append("lamp 0 goal ").append(times).append(';');
+                due.append(times > 0 ? "press " + lamp + " " + times + ";" : "");
+            }
+            Run.of(text.toString()).dueReported(presses + " presses", due + "done " + presses + ";");
+        }
+    }
+
     static void promise55NoneWithoutAPlan() {
         for (Run run : new Run[] {Nets.lost(2, 1), Nets.lost(3, 10), Nets.lost(5, 6)}) {
             run.dueReported("none", "none;");

@@ -378,6 +378,25 @@ final class BoundariesToldTest {
         fault(Nets.lamps(2) + "wire 0 1 bye 1;", 23);
     }
 
+    static void promise4NoOtherWords() {
+        for (int at = 0; at < WHOLE.length(); at++) {
+            char letter = WHOLE.charAt(at);
+            if (!Character.isLetter(letter)) {
+                continue;
+            }
+            int word = at;
+            while (word > 0 && Character.isLetter(WHOLE.charAt(word - 1))) {
+                word--;
+            }
+            fault(WHOLE.substring(0, at) + (char) (letter == 'a' ? 'b' : letter - 1) + WHOLE.substring(at + 1), word);
+            fault(WHOLE.substring(0, at) + (char) (letter == 'z' ? 'y' : letter + 1) + WHOLE.substring(at + 1), word);
+            fault(WHOLE.substring(0, at) + letter + WHOLE.substring(at), word);
+            if (Character.isLetter(WHOLE.charAt(at + 1))) {
+                fault(WHOLE.substring(0, at) + WHOLE.substring(at + 1), word);
+            }
+        }
+    }
+
     static void promise4ANumberIsOneDigit() {
         fault("lamp 00;", 6);
         fault("lamp 10;", 6);

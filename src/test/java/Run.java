@@ -80,7 +80,7 @@ final class Run {
         Check.due(what, ask(call), want);
     }
 
-    /** The call answers so, and nothing has changed behind it: not what can be asked, nor the tape, nor what undo brings. */
+    /** The call answers so, and behind it nothing has changed: what can be asked, the tape, what undo brings back. */
     void refuses(String what, Call call, long want) {
         due(what, call, want);
         leaves(what, call);
