@@ -126,8 +126,15 @@ final class BoundariesAskedTest {
     }
 
     static void promise24NoSuchOnes() {
-        noSuchLamp("base(0, ..) of quiet rows", (x, lamp) -> x.count(1) > 0 && x.quiet() > 1 ? x.base(0, lamp)
-            : x.of(lamp, 0));
+        for (int n = 0; n <= 10; n++) {
+            for (Run run : new Run[] {Nets.still(3, n), Nets.lost(5, n)}) {
+                for (int lamp : Nets.outOf(n)) {
+                    run.due("base(0, " + lamp + ") of " + n, x -> x.base(0, lamp), NONE);
+                }
+            }
+        }
+        Nets.still(3, 3).leaves("base(0, 3)", x -> x.base(0, 3));
+        Nets.still(3, 3).leaves("base(2, 2)", x -> x.base(2, 2));
         for (int m : Nets.STATES) {
             for (int n = 0; n <= 10; n++) {
                 Run none = Nets.apart(m, n);
