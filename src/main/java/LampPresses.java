@@ -28,8 +28,8 @@ public final class LampPresses {
 
     private final Net net = new Net();
     private final Past past = new Past();
-    private final Tape tape = new Tape();
-    private final Reader reader = new Reader(tape);
+    private final Reader reader = new Reader();
+    private final Tape tape = reader.tape;
     private final Solver solver = new Solver();
     private final Solver trial = new Solver();
     private final Search fewestRow = new Search(false);
@@ -1132,14 +1132,10 @@ public final class LampPresses {
         private static final int WRONG = 4;
 
         final Net draft = new Net();
-        private final Tape tape;
+        final Tape tape = new Tape();
         private int kind;
         private int start;
         private int end;
-
-        Reader(Tape tape) {
-            this.tape = tape;
-        }
 
         /** The fault, or NONE. */
         int read() {

@@ -9,6 +9,7 @@ import java.util.Arrays;
 import java.util.IdentityHashMap;
 import java.util.Map;
 import java.util.Set;
+import java.util.TreeMap;
 import java.util.TreeSet;
 import java.util.regex.Matcher;
 import java.util.regex.Pattern;
@@ -28,8 +29,10 @@ final class LanguageTest {
         face();
         for (Class<?> inside : LampPresses.class.getDeclaredClasses()) {
             members(inside);
+            constructors(inside);
         }
         members(LampPresses.class);
+        constructors(LampPresses.class);
         Check.due("classes", LampPresses.class.getDeclaredClasses().length + 1 <= 12, true);
         source(Files.readString(Path.of("src/main/java/LampPresses.java")));
         room();
@@ -99,6 +102,70 @@ final class LanguageTest {
         }
         methodLengths(bare);
         newObjects(bare);
+        callDepth(bare);
+    }
+
+    /**
+     * Rule 11. Calls are looked up by name alone, so a way through two methods of one name may be told longer
+     * than it is, never shorter.
+     */
+    private static void callDepth(String bare) {
+        Map<String, Set<String>> calls = calls(bare);
+        Check.due("methods were found", calls.size() > FACE.split(" ").length / 2, true);
+        for (String name : calls.keySet()) {
+            int depth = depth(calls, name, new TreeSet<>());
+            Check.due(name + " goes " + depth + " calls deep", depth <= 8, true);
+        }
+    }
+
+    private static Map<String, Set<String>> calls(String bare) {
+        Pattern head = Pattern.compile("( {4}| {8})(?:(?:public|private|static) )*[\\w\\[\\]]+ (\\w+)\\(.*\\) \\{");
+        Map<String, String> bodies = new TreeMap<>();
+        String name = "";
+        String end = "";
+        for (String line : bare.split("\n")) {
+            Matcher found = head.matcher(line);
+            if (name.isEmpty() && found.matches()) {
+                name = found.group(2);
+                end = found.group(1) + "}";
+                bodies.putIfAbsent(name, "");
+            } else if (line.equals(end)) {
+                name = "";
+            } else if (!name.isEmpty()) {
+                bodies.merge(name, line, (ahead, more) -> ahead + "\n" + more);
+            }
+        }
+        Map<String, Set<String>> calls = new TreeMap<>();
+        for (Map.Entry<String, String> body : bodies.entrySet()) {
+            Set<String> called = new TreeSet<>();
+            Pattern.compile("\\b(\\w+)\\(").matcher(body.getValue()).results().forEach(r -> called.add(r.group(1)));
+            called.retainAll(bodies.keySet());
+            calls.put(body.getKey(), called);
+        }
+        return calls;
+    }
+
+    /** A method that calls itself is counted once: no other recursion is in the class. */
+    private static int depth(Map<String, Set<String>> calls, String name, Set<String> open) {
+        Set<String> standing = new TreeSet<>(open);
+        standing.add(name);
+        int deepest = 0;
+        for (String called : calls.get(name)) {
+            if (!called.equals(name)) {
+                Check.due(called + " is not called in a ring", standing.contains(called), false);
+                deepest = Math.max(deepest, standing.contains(called) ? 0 : depth(calls, called, standing));
+            }
+        }
+        return deepest + 1;
+    }
+
+    /** Rule 12: nothing of an object is handed out while it is being made. */
+    private static void constructors(Class<?> type) {
+        for (Constructor<?> made : type.getDeclaredConstructors()) {
+            for (Class<?> taken : made.getParameterTypes()) {
+                Check.due(type + " is made of numbers alone", taken.isPrimitive(), true);
+            }
+        }
     }
 
     private static void methodLengths(String bare) {
